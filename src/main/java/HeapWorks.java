@@ -332,7 +332,7 @@ public final class HeapWorks {
             throw new IllegalArgumentException();
         }
         spare.takeFrom(heap);
-        brokenBy[promiseCount] = machine.holds(program, spare) ? UNBROKEN : NONE;
+        brokenBy[promiseCount] = machine.run(program, spare) && machine.saysTrue() ? UNBROKEN : NONE;
         promiseCount++;
         return promiseCount - 1;
     }
@@ -354,7 +354,7 @@ public final class HeapWorks {
                 spare.takeFrom(heap);
                 taken = true;
             }
-            if (!machine.holds(promised[k], spare)) {
+            if (!machine.run(promised[k], spare) || !machine.saysTrue()) {
                 brokenBy[k] = write;
             }
         }
@@ -709,6 +709,10 @@ public final class HeapWorks {
         private final int[] ready;
         private final long[] keywords;
         private int at;
+        private final int[] words;
+        private final int[] places;
+        private final long[] codes;
+        private int next;
         int word;
         int place;
         long code;
@@ -716,6 +720,9 @@ public final class HeapWorks {
         Tape() {
             bytes = new int[MOST];
             ready = new int[READY];
+            words = new int[MOST + 1];
+            places = new int[MOST + 1];
+            codes = new long[MOST + 1];
             keywords = new long[KEYWORD_COUNT];
             int k = 0;
             long packed = 0;
@@ -780,20 +787,45 @@ public final class HeapWorks {
 
         // The code of the name that the whole tape is; 0 if it is none.
         long wholeName() {
-            startWords();
+            if (size > NAME_LENGTH) {
+                return 0;
+            }
+            at = 0;
+            scanWord();
             return word == NAME && place == 0 && at == size ? code : 0;
         }
 
+        // Splits the tape into words and goes to the first.
         void startWords() {
             at = 0;
+            int count = 0;
+            do {
+                scanWord();
+                words[count] = word;
+                places[count] = place;
+                codes[count] = code;
+                count++;
+            } while (word != END && count <= MOST);
+            next = 0;
             nextWord();
         }
 
+        // Goes to the next word; behind the last one it is END for ever.
         void nextWord() {
+            word = words[next];
+            place = places[next];
+            code = codes[next];
+            if (word != END && next < MOST) {
+                next++;
+            }
+        }
+
+        private void scanWord() {
             while (at < size && isBlank(bytes[at])) {
                 at++;
             }
             place = at;
+            code = 0;
             if (at >= size) {
                 word = END;
             } else if (isDigit(bytes[at])) {
@@ -810,7 +842,6 @@ public final class HeapWorks {
         }
 
         private void scanNumber() {
-            code = 0;
             while (at < size && isDigit(bytes[at])) {
                 code = code * 10 + bytes[at] - '0';
                 at++;
@@ -819,7 +850,6 @@ public final class HeapWorks {
         }
 
         private void scanName() {
-            code = 0;
             while (at < size && symbolOf(bytes[at]) > 0) {
                 code = code * 64 + symbolOf(bytes[at]);
                 at++;
@@ -861,8 +891,10 @@ public final class HeapWorks {
         static final int LENGTH = 60;
         static final int LINK = 5;
 
+        static final int NUMBERS = 20;
+        static final int HIGHEST = 45;
+
         private static final int SLOTS = MOST * FIELDS;
-        private static final int NUMBERS = 20;
         private static final int ANY_LINKS = 29;
         private static final int CLASS_LINKS = 30;
         private static final int LAST_NUMBERS = 24;
@@ -2316,6 +2348,8 @@ public final class HeapWorks {
         int steps;
         int fault;
         int place;
+        boolean usesHolders;
+        boolean usesKept;
         private int nodes;
         private int nest;
         private int folds;
@@ -2369,6 +2403,8 @@ public final class HeapWorks {
             steps = 0;
             fault = 0;
             place = NONE;
+            usesHolders = false;
+            usesKept = false;
             nodes = 0;
             nest = 0;
             folds = 0;
@@ -2385,6 +2421,8 @@ public final class HeapWorks {
             target[at] = to;
             detail[at] = with;
             steps = at + 1;
+            usesHolders |= what == SET_HELD || what == KEPT;
+            usesKept |= what == KEPT;
             return at;
         }
 
@@ -2804,9 +2842,9 @@ public final class HeapWorks {
             rowValue = new long[ROWS];
         }
 
-        // Whether the one answer of a promise is true.
-        boolean holds(Program asked, Picture over) {
-            return run(asked, over) && top == 1 && isTrue(0);
+        // Whether what was left on the stack, the answer of a promise, is true.
+        boolean saysTrue() {
+            return top == 1 && isTrue(0);
         }
 
         // Goes to the end, unless the METER is SPENT: whether it came there.
@@ -2815,6 +2853,12 @@ public final class HeapWorks {
             picture = over;
             meter = 0;
             top = 0;
+            if (asked.usesHolders) {
+                over.shape.needHolders(over);
+            }
+            if (asked.usesKept) {
+                over.shape.needDominators(over);
+            }
             int at = 0;
             for (int step = 0; step < STEPS && at < program.steps && meter <= METER; step++) {
                 at = execute(at);
@@ -2848,10 +2892,6 @@ public final class HeapWorks {
                 value[top] = v;
                 top++;
             }
-        }
-
-        private void pushLink(long v) {
-            push(v == NONE ? A_NULL : A_THING, v == NONE ? 0 : v);
         }
 
         private void pushTruth(boolean v) {
@@ -2902,7 +2942,7 @@ public final class HeapWorks {
             boolean array = Types.isArray(type);
             switch (op) {
                 case Program.SIZE: push(A_NUMBER, types.sizeOf(type, picture.length[t])); break;
-                case Program.KEPT: push(A_NUMBER, picture.keptBy(t)); break;
+                case Program.KEPT: push(A_NUMBER, picture.shape.kept[t]); break;
                 case Program.DEPTH: push(A_NUMBER, picture.depth[t]); break;
                 case Program.LENGTH: push(array ? A_NUMBER : NOTHING, array ? picture.length[t] : 0); break;
                 case Program.IS: pushTruth(types.isNamed(type, with)); break;
@@ -2916,10 +2956,12 @@ public final class HeapWorks {
                 return;
             }
             int at = picture.first[t] + k;
-            if (picture.link[at]) {
-                pushLink(picture.value[at]);
-            } else {
+            if (!picture.link[at]) {
                 push(A_NUMBER, picture.value[at]);
+            } else if (picture.value[at] == NONE) {
+                push(A_NULL, 0);
+            } else {
+                push(A_THING, picture.value[at]);
             }
         }
 
@@ -3013,9 +3055,8 @@ public final class HeapWorks {
                 cursor[in] = picture.first[t];
                 bound[in] = picture.first[t + 1];
             } else if (op == Program.SET_HELD) {
-                bound[in] = picture.holdersOf(t);
                 cursor[in] = picture.shape.holderFirst[t];
-                bound[in] += cursor[in];
+                bound[in] = picture.shape.holderFirst[t + 1];
             } else {
                 stamp[in]++;
                 source[in] = 0;
@@ -3049,11 +3090,8 @@ public final class HeapWorks {
             return queue[in * Picture.THINGS + cursor[in] - 1];
         }
 
-        // The next thing that a set gives; NONE at its end.
+        // The next thing that a set gives (but for one of what is reached); NONE at its end.
         private int nextThing(int in) {
-            if (setKind[in] == Program.SET_FROM) {
-                return nextReached(in);
-            }
             while (cursor[in] < bound[in]) {
                 int at = cursor[in];
                 cursor[in]++;
@@ -3073,7 +3111,7 @@ public final class HeapWorks {
                 default: break;
             }
             int type = picture.type[at];
-            return !Types.isArray(type) && (source[in] >> type & 1) != 0 ? at : NONE;
+            return type < Types.NUMBERS && (source[in] >> type & 1) != 0 ? at : NONE;
         }
 
         private int jump(int op, int at) {
@@ -3117,7 +3155,7 @@ public final class HeapWorks {
 
         private int giveNext(int at) {
             int in = program.frame[at];
-            int given = nextThing(in);
+            int given = setKind[in] == Program.SET_FROM ? nextReached(in) : nextThing(in);
             if (given == NONE) {
                 return program.target[at];
             }
@@ -3261,7 +3299,9 @@ public final class HeapWorks {
         }
 
         private boolean refuse() {
-            return fail(tape.word == Tape.BAD ? NO_WORD : MISPLACED, tape.place);
+            fault = tape.word == Tape.BAD ? NO_WORD : MISPLACED;
+            place = tape.place;
+            return false;
         }
 
         private boolean pass(int word) {
@@ -3339,7 +3379,15 @@ public final class HeapWorks {
             int namePlace = tape.place;
             tape.nextWord();
             if (name == linkCode || tape.word == Tape.OPEN) {
-                return readRelation(at, name, namePlace);
+                bodyRelation[at] = name == linkCode ? LINK : relationOf(name);
+                if (bodyRelation[at] == NONE) {
+                    return fail(TOO_GREAT, namePlace);
+                }
+                if (!readPair(bodyRelation[at], namePlace, bodyA, bodyB, at)) {
+                    return false;
+                }
+                bound |= 1 << bodyA[at] | 1 << bodyB[at];
+                return true;
             }
             if (tape.word == Tape.COLON) {
                 tape.nextWord();
@@ -3347,38 +3395,20 @@ public final class HeapWorks {
                 bodyName[at] = name;
                 bodyA[at] = readVariable();
                 bodyB[at] = bodyA[at];
-                return bind(at);
+                bound |= bodyA[at] == NONE ? 0 : 1 << bodyA[at];
+                return bodyA[at] != NONE;
             }
             if (tape.word != Tape.EQUAL && tape.word != Tape.UNEQUAL) {
                 return refuse();
             }
             bodyRelation[at] = tape.word == Tape.EQUAL ? SAME : OTHER;
-            bodyA[at] = variableOf(name, namePlace);
+            bodyA[at] = variableOf(name);
             if (bodyA[at] == NONE) {
-                return false;
+                return fail(TOO_GREAT, namePlace);
             }
             tape.nextWord();
             bodyB[at] = readVariable();
             return bodyB[at] != NONE;
-        }
-
-        private boolean readRelation(int at, long name, int namePlace) {
-            bodyRelation[at] = name == linkCode ? LINK : NONE;
-            if (name != linkCode) {
-                bodyRelation[at] = relationOf(name);
-                if (bodyRelation[at] == NONE) {
-                    return fail(TOO_GREAT, namePlace);
-                }
-            }
-            return readPair(bodyRelation[at], namePlace, bodyA, bodyB, at) && bind(at);
-        }
-
-        private boolean bind(int at) {
-            if (bodyA[at] == NONE || bodyB[at] == NONE) {
-                return false;
-            }
-            bound |= 1 << bodyA[at] | 1 << bodyB[at];
-            return true;
         }
 
         // The relation of a name, a new one if it has not come yet; NONE if that were one too many.
@@ -3431,21 +3461,23 @@ public final class HeapWorks {
                 refuse();
                 return NONE;
             }
-            int found = variableOf(tape.code, tape.place);
-            if (found != NONE) {
-                tape.nextWord();
+            int found = variableOf(tape.code);
+            if (found == NONE) {
+                fail(TOO_GREAT, tape.place);
+                return NONE;
             }
+            tape.nextWord();
             return found;
         }
 
-        private int variableOf(long name, int at) {
+        // The variable of a name, a new one if it has not come yet; NONE if that were one too many.
+        private int variableOf(long name) {
             for (int k = 0; k < variables; k++) {
                 if (variableName[k] == name) {
                     return k;
                 }
             }
             if (variables == VARIABLES) {
-                fail(TOO_GREAT, at);
                 return NONE;
             }
             variableName[variables] = name;
@@ -3769,7 +3801,7 @@ public final class HeapWorks {
             if (object != NONE && p.thingOf[object] != NONE) {
                 return fail(CANT_BE, numberPlace);
             }
-            int type = object == NONE ? NONE : readUpTo(Integer.MAX_VALUE);
+            int type = object == NONE ? NONE : readUpTo(Types.HIGHEST);
             if (type != NONE && !types.isType(type)) {
                 return fail(CANT_BE, numberPlace);
             }
