@@ -2229,7 +2229,7 @@ public final class HeapWorks {
             for (int t = 0; t < p.things; t++) {
                 int b = bucketOf(p, t);
                 int same = bucket[b];
-                while (same != NONE && !isTwin(p, same, t)) {
+                for (int k = 0; k < p.things && same != NONE && !isTwin(p, same, t); k++) {
                     same = cursor[same];
                 }
                 if (same == NONE) {

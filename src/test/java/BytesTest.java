@@ -440,6 +440,42 @@ public final class BytesTest {
         Check.same("recall", x.recall(2, 73), 0);
         Check.same("all whole", x.reopen(8000), 74);
         Check.same("all whole but one", x.reopen(7999), 73);
+        // a record of 16 bytes: behind 7984 there is room, behind 7985 there is not
+        for (int k = 6; k < 128; k++) {
+            x.make(20, 0);
+        }
+        int one = x.make(20, 0);
+        for (int k = 0; k < 6; k++) {
+            x.root(k, false);
+        }
+        x.root(one, true);
+        x.take(2);
+        Check.same("7280", x.reopen(7280), 2);
+        Check.same("16", x.keep(2), 3);
+        Check.same("16", x.about(8), 7296);
+        x.root(one, false);
+        x.root(7, true);
+        x.take(3);
+        Check.same("15", x.keep(3), 4);
+        for (int k = 0; k < 11; k++) {
+            x.keep(3);
+        }
+        for (int k = 0; k < 50; k++) {
+            x.keep(1);
+        }
+        Check.same("7976", x.about(8), 7976);
+        Check.same("15", x.keep(3) > 0, true);
+        Check.refused("10 are too much", Check.STATE, () -> x.keep(1));
+        x.reopen(7280);
+        for (int k = 0; k < 7; k++) {
+            x.keep(3);
+        }
+        for (int k = 0; k < 60; k++) {
+            x.keep(1);
+        }
+        Check.same("7985", x.about(8), 7985);
+        Check.refused("8001", Check.STATE, () -> x.keep(2));
+        Check.same("8000", x.keep(3) > 0, true);
         x.reopen(0);
         for (int k = 0; k < 300; k++) {
             Check.same("keep", x.keep(1), k + 1);

@@ -59,6 +59,27 @@ public final class ClassTest {
             c.text(name);
             Check.refused("'" + name + "'", Check.ARGUMENT, () -> c.x.field(0, 0, 0, false));
         }
+        manyNames();
+    }
+
+    // All names of two letters or digits are different ones.
+    private static void manyNames() {
+        String signs = "ABCDEFGHIJKLMNOPQRSTUVWXYZabcdefghijklmnopqrstuvwxyz0123456789";
+        String[] own = {"a0", "Z9", "mM", "cU"};
+        Check c = new Check();
+        for (int k = 0; k < own.length; k++) {
+            c.type(own[k]);
+            c.x.root(c.x.make(k, 0), true);
+        }
+        c.x.take(0);
+        for (int a = 0; a < 52; a++) {
+            for (int b = 0; b < signs.length(); b++) {
+                String name = "" + signs.charAt(a) + signs.charAt(b);
+                if (!name.equals("is") && !name.equals("in") && !name.equals("it") && !name.equals("or")) {
+                    Check.same(name, c.ask(0, "own " + name), java.util.Arrays.asList(own).contains(name) ? 1 : 0);
+                }
+            }
+        }
     }
 
     // Promises 8 and 10

@@ -275,6 +275,11 @@ public final class QuestionTest {
         c.nothing("it.b[null]");
         c.nothing("thing 4[999999999999999999]");
         c.nothing("null[0]");
+        c.nothing("2[0]");
+        c.nothing("true[0]");
+        c.nothing("thing 4 + 1");
+        c.nothing("thing 4 < 1");
+        c.nothing("1 * thing 4");
         c.number("thing 4[it.n - 1]", 0);
         c.number("it.b[0].a.b[thing 4[0]].n", 2);
         c.nothing("thing 5");

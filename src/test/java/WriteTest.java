@@ -11,6 +11,8 @@ public final class WriteTest {
         promises();
         brokenBySwap();
         spentPromise();
+        exactPromise();
+        greatPromises();
         Check.done("WriteTest");
     }
 
@@ -359,6 +361,67 @@ public final class WriteTest {
         Check.same("not looked at", x.broken(2), -2);
         x.set(1, 1, 0);
         Check.same("the next write", x.broken(2), x.about(5) - 1);
+    }
+
+    // 30000 are not too much, 30001 are: over 100 things, 60 of them in the slots of thing 0, - 1 < costs 3, two sums
+    // over all things 2 + 100 * (1 + 2 + 100 * 2) = 20302, + 1, two sums over the slots 3 + 60 * (1 + 3 + 60 * 2) =
+    // 7443, + 1, a sum of 21 nodes for each thing 2 + 100 * (1 + 21) = 2202, 24 times + 1 are 48.
+    private static void exactPromise() {
+        Check c = new Check();
+        HeapWorks x = c.x;
+        c.type("A");
+        int[] arrays = {x.make(29, 60), x.make(29, 38)};
+        for (int k = 0; k < 98; k++) {
+            x.set(arrays[k / 60], k % 60, x.make(0, 0));
+        }
+        x.root(arrays[0], true);
+        x.root(arrays[1], true);
+        String costs = "1 < sum(x in things : sum(y in things : 1))"
+            + " + sum(z in slots thing 0 : sum(w in slots thing 0 : 1))"
+            + " + sum(u in things : " + Check.repeat("-", 20) + "1)" + Check.repeat("+1", 24);
+        c.text("-" + costs);
+        x.promise();
+        c.text("--" + costs);
+        x.promise();
+        Check.same("30000", x.broken(0), -2);
+        Check.same("30001", x.broken(1), -1);
+        x.set(arrays[0], 0, 2);
+        Check.same("still 30000", x.broken(0), -2);
+        x.set(arrays[0], 0, -1);
+        Check.same("less", x.broken(0), -2);
+    }
+
+    // In a promise no set takes a node away.
+    private static void greatPromises() {
+        Check c = new Check();
+        HeapWorks x = c.x;
+        String[] ahead = {"not ", "-", "size ", "kept "};
+        for (String word : ahead) {
+            c.text(Check.repeat(word, 121) + "1");
+            Check.refused("121 times " + word, Check.ARGUMENT, () -> x.promise());
+            Check.same("too great", x.fault(0), 4);
+            Check.same("the 121st", x.fault(1), 120 * word.length());
+            c.text(Check.repeat(word, 120) + "1");
+            Check.refused("120 times " + word, Check.ARGUMENT, () -> x.promise());
+            Check.same("too great", x.fault(0), 4);
+            Check.same("the number", x.fault(1), 120 * word.length());
+        }
+        String[] between = {"+", " or ", " and ", "*"};
+        for (String word : between) {
+            c.text("1" + Check.repeat(word + "1", 60));
+            Check.refused("60 times " + word, Check.ARGUMENT, () -> x.promise());
+            Check.same("too great", x.fault(0), 4);
+            Check.same("the last number", x.fault(1), x.about(0) - 1);
+            c.text("1" + Check.repeat(word + "1", 59) + word);
+            Check.refused("the end", Check.ARGUMENT, () -> x.promise());
+            Check.same("it ends", x.fault(0), 1);
+        }
+        c.text(Check.repeat("not ", 119) + "true");
+        Check.same("120", x.promise(), 0);
+        Check.same("false", x.broken(0), -1);
+        c.text(Check.repeat("not ", 118) + "true");
+        Check.same("119", x.promise(), 1);
+        Check.same("true", x.broken(1), -2);
     }
 
     private static void spentPromise() {
