@@ -1361,14 +1361,21 @@ public final class HeapWorks {
                     type[o] = NONE;
                     continue;
                 }
-                System.arraycopy(value, first[o], value, free, count);
-                System.arraycopy(link, first[o], link, free, count);
+                moveSlots(first[o], free, count);
                 first[o] = free;
                 free += count;
             }
             slots = free;
             there = met;
             return gone;
+        }
+
+        // Moves slots down, to where those of objects that went were.
+        private void moveSlots(int from, int to, int count) {
+            for (int k = 0; k < count; k++) {
+                value[to + k] = value[from + k];
+                link[to + k] = link[from + k];
+            }
         }
 
         // Copies an object: the copy's number; NONE if there is no room.
