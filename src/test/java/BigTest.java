@@ -11,6 +11,7 @@ public final class BigTest {
         wideClasses();
         manyRoots();
         hardQuestions();
+        fullTape();
         Check.done("BigTest");
     }
 
@@ -287,6 +288,33 @@ public final class BigTest {
         int other = x.make(1, 0);
         Check.same("writes", x.swap(o, other), 95);
         Check.same("undo", x.about(6), 100);
+    }
+
+    // A tape of 4000 words, or of one.
+    private static void fullTape() {
+        Check c = new Check();
+        HeapWorks x = c.x;
+        String[] fill = {"(", ";", "-", "x", "7", " ", "@", "x "};
+        for (String word : fill) {
+            c.text(Check.repeat(word, 4000 / word.length()));
+            Check.same("4000", x.about(0), 4000);
+            Check.refused("ask " + word, Check.ARGUMENT, () -> x.ask(0));
+            Check.refused("promise " + word, Check.ARGUMENT, () -> x.promise());
+            Check.refused("type " + word, Check.ARGUMENT, () -> x.type(-1, 0));
+            Check.refused("load " + word, Check.ARGUMENT, () -> x.load(0));
+            if (!word.equals(" ")) {
+                Check.refused("rules " + word, Check.ARGUMENT, () -> x.rules(0));
+            } else {
+                Check.same("no rules", x.rules(0), 0);
+            }
+        }
+        c.text("things" + Check.repeat(" ", 3994));
+        Check.same("blanks behind", x.ask(0), 0);
+        c.text(Check.repeat("\n", 3994) + "things");
+        Check.same("blanks ahead", x.ask(0), 0);
+        c.text("things where" + Check.repeat(" ", 3988));
+        Check.refused("it ends", Check.ARGUMENT, () -> x.ask(0));
+        Check.same("at the tape's length", x.fault(1), 4000);
     }
 
     // Three promises that take nearly all of their meter at each write.

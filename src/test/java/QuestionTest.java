@@ -533,6 +533,15 @@ public final class QuestionTest {
         Check.same("30000 is not too much", c.ask(0, exact("")), 1);
         c.fault(exact("-"), 5, -1);
         Check.same("and again", c.ask(0, exact("")), 1);
+        // the 21 nodes for each thing in other ways
+        String[] others = {"true" + Check.repeat(" and true", 10), "false" + Check.repeat(" or false", 10),
+            Check.repeat("not ", 20) + "u", "u" + Check.repeat(".n", 20), "1" + Check.repeat("*1", 10),
+            "u" + Check.repeat("[1]", 10), Check.repeat("kept ", 20) + "u"};
+        for (String nodes : others) {
+            String signs = Check.repeat("-", 20) + "1";
+            Check.same("30000 with " + nodes, c.ask(0, exact("").replace(signs, nodes)), 1);
+            c.fault(exact("-").replace(signs, nodes), 5, -1);
+        }
     }
 
     // A question over 100 things, 60 of them in the slots of thing 0, that costs 30000, or 30001 with a sign ahead:
