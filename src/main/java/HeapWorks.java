@@ -1031,6 +1031,12 @@ public final class HeapWorks {
             return NONE;
         }
 
+        // Own field f of class c stands at c * FIELDS + f in the rows of fields; what is behind the last one of a class
+        // is no static, so that a loop over these places meets all fields, class by class.
+        int ownFields() {
+            return count * FIELDS;
+        }
+
         boolean isLinkStatic(int own) {
             return fieldStatic[own] && fieldKind[own] == LINK;
         }
@@ -1284,12 +1290,9 @@ public final class HeapWorks {
                     }
                 }
             }
-            for (int c = 0; c < types.count; c++) {
-                for (int f = 0; f < types.fieldCount[c]; f++) {
-                    int own = c * Types.FIELDS + f;
-                    if (types.isLinkStatic(own) && !fitsSwapped(statics[own], types.fieldLink[own], a, b)) {
-                        return false;
-                    }
+            for (int own = 0; own < types.ownFields(); own++) {
+                if (types.isLinkStatic(own) && !fitsSwapped(statics[own], types.fieldLink[own], a, b)) {
+                    return false;
                 }
             }
             return true;
@@ -1321,12 +1324,9 @@ public final class HeapWorks {
             for (int k = 0; k < rootCount; k++) {
                 met = meet(roots[k], met);
             }
-            for (int c = 0; c < types.count; c++) {
-                for (int f = 0; f < types.fieldCount[c]; f++) {
-                    int own = c * Types.FIELDS + f;
-                    if (types.isLinkStatic(own)) {
-                        met = meet(statics[own], met);
-                    }
+            for (int own = 0; own < types.ownFields(); own++) {
+                if (types.isLinkStatic(own)) {
+                    met = meet(statics[own], met);
                 }
             }
             return met;
@@ -1507,13 +1507,10 @@ public final class HeapWorks {
 
         int swapStatics(Heap heap, int a, int b) {
             int count = 0;
-            for (int c = 0; c < types.count; c++) {
-                for (int f = 0; f < types.fieldCount[c]; f++) {
-                    int own = c * Types.FIELDS + f;
-                    if (types.isLinkStatic(own) && (heap.statics[own] == a || heap.statics[own] == b)) {
-                        writeStatic(heap, own, heap.statics[own] == a ? b : a);
-                        count++;
-                    }
+            for (int own = 0; own < types.ownFields(); own++) {
+                if (types.isLinkStatic(own) && (heap.statics[own] == a || heap.statics[own] == b)) {
+                    writeStatic(heap, own, heap.statics[own] == a ? b : a);
+                    count++;
                 }
             }
             return count;
@@ -1655,14 +1652,10 @@ public final class HeapWorks {
                 meetRoot(heap, heap.roots[k], k);
             }
             int number = heap.rootCount;
-            Types types = heap.types;
-            for (int c = 0; c < types.count; c++) {
-                for (int f = 0; f < types.fieldCount[c]; f++) {
-                    int own = c * Types.FIELDS + f;
-                    if (types.isLinkStatic(own)) {
-                        meetRoot(heap, heap.statics[own], number);
-                        number++;
-                    }
+            for (int own = 0; own < heap.types.ownFields(); own++) {
+                if (heap.types.isLinkStatic(own)) {
+                    meetRoot(heap, heap.statics[own], number);
+                    number++;
                 }
             }
             for (int t = 0; t < things; t++) {
