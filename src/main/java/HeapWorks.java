@@ -1569,7 +1569,9 @@ public final class HeapWorks {
         private void addRow(int watch, int object, long before, long after) {
             int base = watch * ROWS * PARTS;
             if (rowCount[watch] == ROWS) {
-                System.arraycopy(rowParts, base + PARTS, rowParts, base, (ROWS - 1) * PARTS);
+                for (int k = base; k < base + (ROWS - 1) * PARTS; k++) {
+                    rowParts[k] = rowParts[k + PARTS];
+                }
                 rowCount[watch]--;
             }
             int at = base + rowCount[watch] * PARTS;
@@ -2421,8 +2423,12 @@ public final class HeapWorks {
             target[at] = to;
             detail[at] = with;
             steps = at + 1;
-            usesHolders |= what == SET_HELD || what == KEPT;
-            usesKept |= what == KEPT;
+            if (what == SET_HELD || what == KEPT) {
+                usesHolders = true;
+            }
+            if (what == KEPT) {
+                usesKept = true;
+            }
             return at;
         }
 

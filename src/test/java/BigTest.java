@@ -7,6 +7,9 @@ public final class BigTest {
         for (int seed = 1; seed <= 12; seed++) {
             graph(seed);
         }
+        for (int seed = 1; seed <= 6; seed++) {
+            doubles(seed);
+        }
         chain();
         wideClasses();
         manyRoots();
@@ -176,6 +179,49 @@ public final class BigTest {
         for (int t = 0; t < things; t++) {
             Check.same("holders", x.thing(0, t, 7), count[t]);
         }
+    }
+
+    // Some 400 arrays of numbers and links with few values, so that many are doubles, and many others nearly so.
+    private static void doubles(int seed) {
+        Random random = new Random(seed);
+        HeapWorks x = new HeapWorks();
+        for (int o = 0; o < 7; o++) {
+            x.make(29, 60);
+            x.root(o, true);
+        }
+        for (int k = 0; k < 393; k++) {
+            int length = random.nextInt(7);
+            int type = random.nextInt(8) == 0 ? 29 : 20 + random.nextInt(5);
+            int o = x.make(type, length);
+            for (int s = 0; s < length; s++) {
+                x.set(o, s, random.nextInt(type == 20 ? 2 : seed % 2 + 2) - (type == 29 ? 1 : 0));
+            }
+            x.set(k / 60, k % 60, o);
+        }
+        int things = x.take(0);
+        java.util.Map<String, java.util.List<Integer>> groups = new java.util.LinkedHashMap<>();
+        for (int t = 0; t < things; t++) {
+            StringBuilder told = new StringBuilder(x.thing(0, t, 1) + "/" + x.thing(0, t, 2));
+            for (int k = 0; k < x.thing(0, t, 2); k++) {
+                told.append(' ').append(x.slot(0, t, k));
+            }
+            groups.computeIfAbsent(told.toString(), s -> new java.util.ArrayList<>()).add(t);
+        }
+        int count = 0;
+        int size = 0;
+        for (java.util.List<Integer> group : groups.values()) {
+            boolean doubled = group.size() > 1;
+            for (int k = 0; k < group.size(); k++) {
+                Check.same("group", x.thing(0, group.get(k), 12), doubled ? count : -1);
+                if (doubled) {
+                    Check.same("member", x.member(0, 1, count, k), group.get(k));
+                    size += k > 0 ? x.thing(0, group.get(k), 3) : 0;
+                }
+            }
+            count += doubled ? 1 : 0;
+        }
+        Check.same("groups", x.picture(0, 2), count);
+        Check.same("sizes", x.picture(0, 4), size);
     }
 
     // 400 objects in a row, then in a ring.

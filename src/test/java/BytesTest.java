@@ -1,8 +1,5 @@
-import java.util.ArrayList;
-import java.util.List;
-
 /** Promises 46 and 48 to 51: pictures as bytes, and the log. */
-public final class BytesTest {
+public final class BytesTest extends ByteChecks {
     public static void main(String[] args) {
         encoding();
         everyKind();
@@ -21,48 +18,6 @@ public final class BytesTest {
         Check.done("BytesTest");
     }
 
-    private static int[] row(int... bytes) {
-        return bytes;
-    }
-
-    private static int[] join(int[]... parts) {
-        List<Integer> all = new ArrayList<>();
-        for (int[] part : parts) {
-            for (int b : part) {
-                all.add(b);
-            }
-        }
-        int[] joined = new int[all.size()];
-        for (int k = 0; k < joined.length; k++) {
-            joined[k] = all.get(k);
-        }
-        return joined;
-    }
-
-    private static int[] checked(int... bytes) {
-        int h = 1;
-        for (int b : bytes) {
-            h = h * 16777619 ^ b;
-        }
-        return join(bytes, row(h & 255, h >> 8 & 255, h >> 16 & 255, h >>> 24));
-    }
-
-    private static void tapeIs(Check c, int... due) {
-        Check.same("tape", c.x.about(0), due.length);
-        for (int k = 0; k < due.length; k++) {
-            Check.same("letter " + k, c.x.letter(k), due[k]);
-        }
-    }
-
-    private static void fault(Check c, int code, int place, int... bytes) {
-        c.tape(bytes);
-        int had = c.x.picture(3, 0);
-        Check.refused("fault " + code + " at " + place, Check.ARGUMENT, () -> c.x.load(3));
-        Check.same("fault, due at " + place, c.x.fault(0), code);
-        Check.same("place of fault " + code, c.x.fault(1), place);
-        Check.same("the picture stays", c.x.picture(3, 0), had);
-    }
-
     // Every byte cut off the end is a fault of an early end.
     private static void allEnds(Check c, int... bytes) {
         c.tape(bytes);
@@ -75,16 +30,9 @@ public final class BytesTest {
         }
     }
 
-    // Classes A (link a to anything, byte n), B an heir of A (link b to B), W (an own class without fields).
     private static Check classes() {
         Check c = new Check();
-        c.type("A");
-        c.link(0, "a", -1);
-        c.field(0, "n", 1);
-        c.type("B", 0, 0);
-        c.link(1, "b", 1);
-        c.field(1, "s", 5, -1, true);
-        c.type("W");
+        classes(c);
         return c;
     }
 
@@ -93,7 +41,7 @@ public final class BytesTest {
         Check c = classes();
         HeapWorks x = c.x;
         x.bytes(0);
-        tapeIs(c, checked(72, 80, 0, 0));
+        tapeIs(c, Check.checked(72, 80, 0, 0));
         for (int k = 0; k < 130; k++) {
             x.make(2, 0);
         }
@@ -109,7 +57,7 @@ public final class BytesTest {
         x.root(5, true);
         x.setStatic(1, 0, b);
         x.take(0);
-        int[] due = checked(72, 80, 4, 130, 1, 0, 0, 4, 255, 1, 5, 2, 0, 131, 1, 1, 0, 0, 254, 1, 3, 132, 1, 31, 2, 0, 3,
+        int[] due = Check.checked(72, 80, 4, 130, 1, 0, 0, 4, 255, 1, 5, 2, 0, 131, 1, 1, 0, 0, 254, 1, 3, 132, 1, 31, 2, 0, 3,
             3, 0, 0, 1, 1, 2, 2);
         Check.same("how many", x.bytes(0), due.length);
         tapeIs(c, due);
@@ -169,7 +117,7 @@ public final class BytesTest {
         fault(c, 1, 11, 72, 80, 255, 255, 255, 255, 255, 255, 255, 255, 255);
         fault(c, 3, 3, 72, 80, 1, 133, 0);
         fault(c, 3, 6, 72, 80, 1, 0, 24, 1, 128, 0);
-        c.tape(checked(72, 80, 1, 0, 24, 1, 255, 255, 255, 255, 255, 255, 255, 255, 255, 1, 1, 0, 0));
+        c.tape(Check.checked(72, 80, 1, 0, 24, 1, 255, 255, 255, 255, 255, 255, 255, 255, 255, 1, 1, 0, 0));
         Check.same("64 bits", c.x.load(0), 1);
         Check.same("the least", c.x.slot(0, 0, 0), Long.MIN_VALUE);
     }
@@ -248,7 +196,7 @@ public final class BytesTest {
         fault(c, 4, 9, join(one, row(2, 3, 0, 3, 0)));
         fault(c, 4, 9, join(one, row(2, 3, 0, 2, 0)));
         fault(c, 4, 5, 72, 80, 0, 1, 0, 0);
-        c.tape(checked(join(one, row(2, 3, 0, 107, 0))));
+        c.tape(Check.checked(join(one, row(2, 3, 0, 107, 0))));
         Check.same("load", c.x.load(3), 1);
         Check.same("its way", c.x.thing(3, 0, 6), 3);
         Check.same("holders", c.x.thing(3, 0, 7), 2);
@@ -258,7 +206,7 @@ public final class BytesTest {
     // FAULTS 5 and 6
     private static void checks() {
         Check c = classes();
-        int[] good = checked(72, 80, 1, 0, 2, 0, 1, 0, 0);
+        int[] good = Check.checked(72, 80, 1, 0, 2, 0, 1, 0, 0);
         for (int k = 9; k < 13; k++) {
             c.tape(good);
             c.x.flip(k, k % 8);
@@ -269,7 +217,7 @@ public final class BytesTest {
         fault(c, 6, 13, join(good, row(0)));
         fault(c, 6, 13, join(good, good));
         // behind a wrong check nothing counts; bytes behind are told ahead of things that are not reached
-        int[] lost = checked(72, 80, 1, 0, 2, 0, 0);
+        int[] lost = Check.checked(72, 80, 1, 0, 2, 0, 0);
         fault(c, 7, 3, lost);
         fault(c, 6, 11, join(lost, row(7)));
         lost[10] ^= 1;
@@ -281,14 +229,14 @@ public final class BytesTest {
     private static void wrongOrder() {
         Check c = classes();
         // two roots in the wrong order
-        fault(c, 7, 3, checked(72, 80, 2, 9, 2, 0, 8, 2, 0, 2, 0, 1, 1, 0));
+        fault(c, 7, 3, Check.checked(72, 80, 2, 9, 2, 0, 8, 2, 0, 2, 0, 1, 1, 0));
         // an array's things 1, 3, 2
-        fault(c, 7, 12, checked(72, 80, 4, 0, 29, 3, 2, 4, 3, 5, 2, 0, 6, 2, 0, 7, 2, 0, 1, 0, 0));
+        fault(c, 7, 12, Check.checked(72, 80, 4, 0, 29, 3, 2, 4, 3, 5, 2, 0, 6, 2, 0, 7, 2, 0, 1, 0, 0));
         // the last one is not reached
-        fault(c, 7, 10, checked(72, 80, 3, 0, 29, 1, 2, 5, 2, 0, 6, 2, 0, 1, 0, 0));
+        fault(c, 7, 10, Check.checked(72, 80, 3, 0, 29, 1, 2, 5, 2, 0, 6, 2, 0, 1, 0, 0));
         // things that hold one another but are not reached
-        fault(c, 7, 6, checked(72, 80, 3, 9, 2, 0, 1, 29, 1, 3, 2, 29, 1, 2, 1, 0, 0));
-        fault(c, 7, 3, checked(72, 80, 1, 0, 29, 1, 1, 0));
+        fault(c, 7, 6, Check.checked(72, 80, 3, 9, 2, 0, 1, 29, 1, 3, 2, 29, 1, 2, 1, 0, 0));
+        fault(c, 7, 3, Check.checked(72, 80, 1, 0, 29, 1, 1, 0));
     }
 
     private static void loadUses() {
@@ -297,10 +245,10 @@ public final class BytesTest {
         Check.same("not used", x.typeLook(2, 5), 0);
         fault(c, 5, 9, 72, 80, 1, 0, 2, 0, 1, 0, 0, 0, 0, 0, 0);
         Check.same("a fault uses nothing", x.typeLook(2, 5), 0);
-        c.tape(checked(72, 80, 1, 250, 2, 32, 0, 1, 0, 0));
+        c.tape(Check.checked(72, 80, 1, 250, 2, 32, 0, 1, 0, 0));
         Check.same("load", x.load(1), 1);
         Check.same("an array's class is not used", x.typeLook(2, 5), 0);
-        c.tape(checked(72, 80, 1, 250, 2, 2, 0, 1, 0, 0));
+        c.tape(Check.checked(72, 80, 1, 250, 2, 2, 0, 1, 0, 0));
         Check.same("load", x.load(1), 1);
         Check.same("used", x.typeLook(2, 5), 1);
         c.text("f");

@@ -13,14 +13,24 @@ final class Check {
 
     private static int wrong;
     private static int checks;
+    private static String said = "";
 
     final HeapWorks x = new HeapWorks();
+
+    // What the document says there, for the tests of its sentences: it is printed with what is wrong.
+    static void saying(String sentence) {
+        said = sentence;
+    }
+
+    private static void tell(String what, Object got, Object want) {
+        wrong++;
+        System.out.println((said.isEmpty() ? "" : said + "\n  ") + what + ": got " + got + ", due is " + want);
+    }
 
     static void same(String what, long got, long want) {
         checks++;
         if (got != want) {
-            wrong++;
-            System.out.println(what + ": got " + got + ", due is " + want);
+            tell(what, got, want);
         }
     }
 
@@ -38,8 +48,7 @@ final class Check {
             got = e.getClass();
         }
         if (got != by) {
-            wrong++;
-            System.out.println(what + ": got " + got + ", due is " + by);
+            tell(what, got, by);
         }
     }
 
@@ -67,6 +76,19 @@ final class Check {
     void tape(int... bytes) {
         x.wipe();
         add(bytes);
+    }
+
+    // A picture's bytes with the CHECK behind them.
+    static int[] checked(int... bytes) {
+        int h = 1;
+        for (int b : bytes) {
+            h = h * 16777619 ^ b;
+        }
+        int[] all = java.util.Arrays.copyOf(bytes, bytes.length + 4);
+        for (int k = 0; k < 4; k++) {
+            all[bytes.length + k] = h >>> 8 * k & 255;
+        }
+        return all;
     }
 
     void text(String s) {

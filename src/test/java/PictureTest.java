@@ -15,9 +15,8 @@ public final class PictureTest {
         Check.done("PictureTest");
     }
 
-    // A class N with links a, b, c to anything and an int n.
-    private static Check nodes(int count) {
-        Check c = new Check();
+    // Objects of a class N with links a, b, c to anything and an INT n.
+    static HeapWorks nodes(Check c, int count) {
         c.type("N");
         c.link(0, "a", -1);
         c.link(0, "b", -1);
@@ -26,6 +25,12 @@ public final class PictureTest {
         for (int k = 0; k < count; k++) {
             c.x.make(0, 0);
         }
+        return c.x;
+    }
+
+    private static Check nodes(int count) {
+        Check c = new Check();
+        nodes(c, count);
         return c;
     }
 
@@ -355,12 +360,7 @@ public final class PictureTest {
             System.arraycopy(head, 0, bytes, 0, 4);
             System.arraycopy(things[p], 0, bytes, 4, things[p].length);
             bytes[4 + things[p].length] = 1;
-            int h = 1;
-            for (int b : bytes) {
-                h = h * 16777619 ^ b;
-            }
-            c.tape(bytes);
-            c.add(h & 255, h >> 8 & 255, h >> 16 & 255, h >> 24 & 255);
+            c.tape(Check.checked(bytes));
             Check.same("load", x.load(p), 1);
         }
         grown(x, 0, 1, 2, 0);

@@ -18,9 +18,9 @@ public final class QuestionTest {
         Check.done("QuestionTest");
     }
 
-    // 0: A(n 1) -> 1: B(n 2), 2: array of two links (1, null), 3: A(n 4); 1 -> 0; 3 -> 3; 2's class is none
-    private static Check heap() {
-        Check c = new Check();
+    // 0: A(n 1) -> a: 1, b: 2, c: 3; 1: B(n 2) -> a: 0; 2: array of links (1, null); 3: A of another loader, an heir of B
+    // (n 4, f 1) -> a: 3, b: 4; 4: LONGs (0, the least, 0)
+    static HeapWorks heap(Check c) {
         HeapWorks x = c.x;
         c.type("A");
         c.link(0, "a", -1);
@@ -39,22 +39,26 @@ public final class QuestionTest {
         x.make(29, 2);
         x.make(2, 0);
         x.make(24, 3);
-        x.set(0, 0, 1);
-        x.set(0, 1, 2);
-        x.set(0, 2, 3);
+        int[][] links = {{0, 0, 1}, {0, 1, 2}, {0, 2, 3}, {1, 0, 0}, {2, 0, 1}, {3, 0, 3}, {3, 1, 4}};
+        for (int[] l : links) {
+            x.set(l[0], l[1], l[2]);
+        }
         x.set(0, 3, 1);
-        x.set(1, 0, 0);
         x.set(1, 3, 20);
         x.set(1, 5, 2);
-        x.set(2, 0, 1);
-        x.set(3, 0, 3);
-        x.set(3, 1, 4);
         x.set(3, 3, 40);
-        x.set(3, 5, 4);
         x.set(3, 4, 1);
+        x.set(3, 5, 4);
+        x.set(3, 6, 9);
         x.set(4, 1, Long.MIN_VALUE);
         x.root(0, true);
         x.take(0);
+        return x;
+    }
+
+    private static Check heap() {
+        Check c = new Check();
+        heap(c);
         return c;
     }
 
