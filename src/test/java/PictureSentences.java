@@ -628,6 +628,12 @@ final class PictureSentences {
             twins.x.take(0);
             Check.same("two of three", twins.x.picture(0, 4), 64);
             Check.same("one group", twins.x.picture(0, 2), 1);
+            Check singles = new Check();
+            for (int k = 0; k < 3; k++) {
+                singles.x.root(singles.x.make(20, k), true);
+            }
+            singles.x.take(0);
+            Check.same("no doubles", singles.x.picture(0, 4), 0);
             Check full = new Check();
             for (int k = 0; k < 16; k++) {
                 full.type("C" + k, k - 1, 0);
