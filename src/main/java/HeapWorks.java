@@ -122,7 +122,7 @@ public final class HeapWorks {
         if (name == 0 || kind < 0 || kind > Types.LINK || kind == Types.LINK && link != NONE && !types.isType(link)) {
             throw new IllegalArgumentException();
         }
-        if (types.used[type] || types.fieldCount[type] == Types.FIELDS || types.hasField(type, name)) {
+        if (types.used[type] || types.fieldCount[type] == Types.FIELDS || types.hasFieldNamed(type, name)) {
             throw new IllegalStateException();
         }
         tape.size = 0;
@@ -963,7 +963,7 @@ public final class HeapWorks {
             return false;
         }
 
-        boolean hasField(int type, long wanted) {
+        boolean hasFieldNamed(int type, long wanted) {
             for (int k = 0; k < fieldCount[type]; k++) {
                 if (fieldName[type * FIELDS + k] == wanted) {
                     return true;
@@ -1347,7 +1347,7 @@ public final class HeapWorks {
         int dropUnreached() {
             clearMarks();
             int met = meetRoots();
-            for (int k = 0; k < met; k++) {
+            for (int k = 0; k < met && k < made; k++) {
                 met = meetLinks(order[k], met);
             }
             int gone = there - met;
@@ -1402,7 +1402,7 @@ public final class HeapWorks {
         private int walkToCopy(int object, int way) {
             clearMarks();
             int met = meet(object, 0);
-            for (int k = 0; k < met && way != ALONE; k++) {
+            for (int k = 0; k < met && k < made && way != ALONE; k++) {
                 int end = first[order[k]] + slotsOf(order[k]);
                 for (int at = first[order[k]]; at < end; at++) {
                     if (link[at] && value[at] != NONE && (way != APART || !types.isApart(type[(int) value[at]]))) {
@@ -1660,7 +1660,7 @@ public final class HeapWorks {
                     number++;
                 }
             }
-            for (int t = 0; t < things; t++) {
+            for (int t = 0; t < things && t < THINGS; t++) {
                 takeSlots(heap, t);
             }
         }
@@ -1727,7 +1727,7 @@ public final class HeapWorks {
                     met++;
                 }
             }
-            for (int t = 0; t < met; t++) {
+            for (int t = 0; t < met && t < things; t++) {
                 for (int at = first[t]; at < first[t + 1]; at++) {
                     if (link[at] && value[at] > met) {
                         return met;
@@ -1858,7 +1858,7 @@ public final class HeapWorks {
             for (int r = 0; r < roots; r++) {
                 met = reach(rootThing[r], met);
             }
-            for (int k = 0; k < met; k++) {
+            for (int k = 0; k < met && k < things; k++) {
                 for (int at = first[queue[k]]; at < first[queue[k] + 1]; at++) {
                     if (link[at] && value[at] != NONE) {
                         met = reach((int) value[at], met);
@@ -1936,7 +1936,7 @@ public final class HeapWorks {
             other.mate[u] = t;
             queue[0] = t;
             int met = 1;
-            for (int k = 0; k < met; k++) {
+            for (int k = 0; k < met && k < things; k++) {
                 met = pairSlots(queue[k], other, met);
                 if (met == NONE) {
                     return false;
@@ -2904,6 +2904,11 @@ public final class HeapWorks {
             push(A_TRUTH, v ? 1 : 0);
         }
 
+        private void pushThing(long t) {
+            boolean there = t < picture.things;
+            push(there ? A_THING : NOTHING, there ? t : 0);
+        }
+
         private boolean isTrue(int at) {
             return at >= 0 && sort[at] == A_TRUTH && value[at] == 1;
         }
@@ -2916,7 +2921,7 @@ public final class HeapWorks {
                 case Program.NULL: push(A_NULL, 0); break;
                 case Program.TRUE: pushTruth(true); break;
                 case Program.FALSE: pushTruth(false); break;
-                case Program.THING: push(with < picture.things ? A_THING : NOTHING, with < picture.things ? with : 0); break;
+                case Program.THING: pushThing(with); break;
                 case Program.VARIABLE: push(A_THING, current[in]); break;
                 default:
                     total[in] = 0;
@@ -3000,12 +3005,16 @@ public final class HeapWorks {
 
         // Things and null are compared with each other by which they are; all else within its sort.
         private void compare(int op, int leftSort, int rightSort, boolean sameValue) {
-            boolean links = (leftSort == A_THING || leftSort == A_NULL) && (rightSort == A_THING || rightSort == A_NULL);
+            boolean links = isLink(leftSort) && isLink(rightSort);
             if (leftSort == NOTHING || leftSort != rightSort && !links) {
                 push(NOTHING, 0);
                 return;
             }
             pushTruth((leftSort == rightSort && sameValue) == (op == Program.EQUAL));
+        }
+
+        private static boolean isLink(int ofSort) {
+            return ofSort == A_THING || ofSort == A_NULL;
         }
 
         private void reckon(int op, long left, long right) {
@@ -3080,7 +3089,7 @@ public final class HeapWorks {
         }
 
         private int nextReached(int in) {
-            while (cursor[in] == bound[in] && source[in] < bound[in]) {
+            while (cursor[in] == bound[in] && source[in] < bound[in] && source[in] < picture.things) {
                 int t = queue[in * Picture.THINGS + source[in]];
                 source[in]++;
                 for (int at = picture.first[t]; at < picture.first[t + 1]; at++) {
